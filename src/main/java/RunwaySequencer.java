@@ -50,7 +50,6 @@ public final class RunwaySequencer {
         snapshots = new State[SNAPSHOTS];
         latestError = 0;
         state.clear();
-        trial.clear();
     }
 
     public int appendByte(int value) throws IllegalArgumentException {
@@ -645,10 +644,7 @@ public final class RunwaySequencer {
 
         void rewind() {
             at = 0;
-            start = 0;
-            value = 0;
             error = 0;
-            errorAt = 0;
         }
 
         boolean fail(int kind, int position) {
@@ -657,20 +653,15 @@ public final class RunwaySequencer {
             return false;
         }
 
-        /** False, without an error, at the end of the text. */
-        boolean skipSpaces() {
+        void skipSpaces() {
             while (at < length && bytes[at] == ' ') {
                 at++;
             }
-            return at < length;
         }
 
         boolean readWord() {
-            boolean more = skipSpaces();
+            skipSpaces();
             start = at;
-            if (!more) {
-                return fail(ERROR_SYNTAX, length);
-            }
             while (at < length && bytes[at] >= 'a' && bytes[at] <= 'z') {
                 at++;
             }
@@ -678,12 +669,9 @@ public final class RunwaySequencer {
         }
 
         boolean readNumber(int low, int high) {
-            boolean more = skipSpaces();
+            skipSpaces();
             start = at;
             value = 0;
-            if (!more) {
-                return fail(ERROR_SYNTAX, length);
-            }
             while (at < length && bytes[at] >= '0' && bytes[at] <= '9') {
                 // Beyond a million a number is out of every range, so more digits need not count.
                 if (value < 1000000) {
@@ -738,7 +726,8 @@ public final class RunwaySequencer {
             }
             // Every statement but the first begins with a semicolon, so the text's length bounds them.
             for (int statement = 0; statement <= MAX_BYTES; statement++) {
-                if (!in.skipSpaces()) {
+                in.skipSpaces();
+                if (in.at >= in.length) {
                     return true;
                 }
                 if (in.bytes[in.at] != ';') {
@@ -1046,9 +1035,8 @@ public final class RunwaySequencer {
             }
         }
 
-        /** Begins with all flights planned, dealt out to the runways by section 1. */
+        /** Behind clear and the reading of a text: plans all flights and deals them out by section 1. */
         void assignByTargets() {
-            forgetPlans();
             for (int f = 0; f < flights.count; f++) {
                 runway[f] = NONE;
                 phase[f] = PLANNED;

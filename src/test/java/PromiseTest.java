@@ -1,4 +1,4 @@
-/** For each promise of the document: ordinary calls, the edges it names, and wrong inputs, with answers worked out by hand. */
+/** For each promise: ordinary calls, the edges that the document names, and wrong inputs, worked out by hand. */
 public final class PromiseTest {
     private static int wrong = 0;
     private static int promise = 0;
@@ -166,7 +166,8 @@ public final class PromiseTest {
         due("loadError() behind a snapshot", y.loadError(), 0);
 
         promise = 5;
-        RunwaySequencer z = of("runways 1;arrival abc light 0 0 0 1;arrival ab light 0 0 0 1;arrival abcdef light 0 0 0 1");
+        RunwaySequencer z = of("runways 1;arrival abc light 0 0 0 1;arrival ab light 0 0 0 1;"
+                + "arrival abcdef light 0 0 0 1");
         append(z, "ab");
         due("find() of ab", z.find(), 1);
         due("find() of nothing", z.find(), RunwaySequencer.NONE);
@@ -210,6 +211,13 @@ public final class PromiseTest {
         dueError("runways 1;wake light lights 0", 1, 21);
         dueError("runways 1;wake light light 601", 2, 27);
         dueError("runways 1;wakelight light 60", 1, 10);
+        dueError("runways 1;wake 5", 1, 15);
+        dueError("runways 1;wake light 5 5", 1, 21);
+        dueError("runways 1;cost 5 5 5", 1, 15);
+        dueError("runways 1;cost light x 5", 1, 21);
+        dueError("runways 1;cost light 5 x", 1, 23);
+        dueError("runways 1;arrival a 5 5 5 1", 1, 20);
+        dueError("runways 1;arrival a light 5 5 5 x", 1, 32);
         dueError("runways 1;arrival abcdefg light 0 0 0 1", 1, 18);
         dueError("runways 1;arrival 7 light 0 0 0 1", 1, 18);
         dueError("runways 1;arrival a light 100000 0 0 1", 2, 26);
@@ -288,6 +296,9 @@ public final class PromiseTest {
         due("longerTriples() at first", new RunwaySequencer().longerTriples(), 0);
         x.setWake(1, 3, 120);
         due("longerTriples() with equal sums", x.longerTriples(), 0);
+        RunwaySequencer y = new RunwaySequencer();
+        y.setWake(0, 0, 600);
+        due("longerTriples() of super behind super", y.longerTriples(), 3);
     }
 
     private static void time() {
@@ -424,6 +435,8 @@ public final class PromiseTest {
         due("timeOf(2)", x.timeOf(2), 120);
         dueIndex("timeOf(3)", () -> x.timeOf(3));
         promise = 28;
+        due("placeOf(1) right behind load()", of(THREE).placeOf(1), 0);
+        due("placeOf(2) right behind load()", of(THREE).placeOf(2), 2);
         due("placeOf(0)", x.placeOf(0), 1);
         due("placeOf(1)", x.placeOf(1), 0);
         dueIndex("placeOf(-1)", () -> x.placeOf(-1));
@@ -441,8 +454,10 @@ public final class PromiseTest {
         promise = 31;
         due("delay(0)", x.delay(0), 60);
         dueIndex("delay(3)", () -> x.delay(3));
+        due("delay(0) with an earliest time", of("runways 1;arrival a light 70 80 90 1").delay(0), 0);
         promise = 32;
-        RunwaySequencer y = of("runways 1;shift 0;arrival a light 0 0 59 1;arrival b light 0 0 60 1;arrival c light 0 0 119 1");
+        RunwaySequencer y = of("runways 1;shift 0;arrival a light 0 0 59 1;"
+                + "arrival b light 0 0 60 1;arrival c light 0 0 119 1");
         due("isLate(1)", y.isLate(1), false);
         due("isLate(2)", y.isLate(2), true);
         dueIndex("isLate(3)", () -> y.isLate(3));
@@ -483,12 +498,15 @@ public final class PromiseTest {
         due("totalCost()", x.totalCost(), 150000);
         promise = 35;
         due("planCost(0)", x.planCost(0), 150000);
+        due("planCost(0) right behind load()", of(THREE).planCost(0), 150000);
         dueIndex("planCost(1)", () -> x.planCost(1));
         promise = 36;
         due("firstComeCost(0)", x.firstComeCost(0), 240000);
         dueIndex("firstComeCost(-1)", () -> x.firstComeCost(-1));
         promise = 37;
         due("meanDelay()", x.meanDelay(), 60f);
+        due("meanDelay() right behind load()", of(THREE).meanDelay(), 60f);
+        due("meanDelay() with an earliest time", of("runways 1;arrival a light 70 80 90 1").meanDelay(), 0f);
         due("meanDelay() without flights", new RunwaySequencer().meanDelay(), 0f);
         x.advance(1);
         promise = 34;
@@ -506,6 +524,8 @@ public final class PromiseTest {
         due("meanDelay()", y.meanDelay(), 60f);
         promise = 38;
         due("lateCount()", y.lateCount(), 2);
+        due("lateCount() right behind load()",
+                of("runways 1;arrival a light 0 0 0 1;arrival b light 0 0 59 1").lateCount(), 1);
         y.cancel(1);
         due("lateCount() with a cancelled one", y.lateCount(), 0);
         due("lateCount() without flights", new RunwaySequencer().lateCount(), 0);
@@ -518,7 +538,8 @@ public final class PromiseTest {
 
         // Times of 0 to 99999 with a cost of 9999 need more than an int.
         promise = 34;
-        RunwaySequencer z = of("runways 1;shift 0;cost light 9999 0;arrival a light 0 99999 99999 1;arrival b light 60 99999 99999 1;"
+        RunwaySequencer z = of("runways 1;shift 0;cost light 9999 0;"
+                + "arrival a light 0 99999 99999 1;arrival b light 60 99999 99999 1;"
                 + "arrival c light 120 99999 99999 1");
         due("totalCost() beyond an int", z.totalCost(), 9999L * (99999 + 99939 + 99879));
     }
@@ -586,9 +607,11 @@ public final class PromiseTest {
         due("slack(1) when done", x.slack(1), RunwaySequencer.NONE);
 
         // Heavy at 0, medium at 60; light would be at 120 behind medium, but heavy holds it until 200.
-        RunwaySequencer y = of("runways 1;shift 0;freeze 0;wake heavy light 200;arrival a heavy 0 0 999 1;"
-                + "arrival b medium 0 1 999 1;arrival c light 0 2 999 1;arrival d light 500 500 999 1");
+        String held = "runways 1;shift 0;freeze 0;wake heavy light 200;arrival a heavy 0 0 999 1;"
+                + "arrival b medium 0 1 999 1;arrival c light 0 2 999 1;arrival d light 500 500 999 1";
+        RunwaySequencer y = of(held);
         promise = 43;
+        due("pastNeighbor() right behind load()", of(held).pastNeighbor(), 1);
         due("timeOf(2)", y.timeOf(2), 200);
         due("pastNeighbor()", y.pastNeighbor(), 1);
         promise = 42;
@@ -600,6 +623,7 @@ public final class PromiseTest {
         due("slack(2)", y.slack(2), 240);
         promise = 44;
         due("lastTime(0)", y.lastTime(0), 500);
+        due("lastTime(0) right behind load()", of(held).lastTime(0), 500);
         dueIndex("lastTime(1)", () -> y.lastTime(1));
         due("lastTime(0) without flights", new RunwaySequencer().lastTime(0), RunwaySequencer.NONE);
         y.advance(61);
@@ -612,7 +636,8 @@ public final class PromiseTest {
 
         // Both a and b at 0 bind c at 60: the smaller number counts, also if it is not the first.
         promise = 42;
-        RunwaySequencer z = of("runways 1;shift 0;wake light light 0;arrival a light 0 5 999 1;arrival b light 0 4 999 1;"
+        RunwaySequencer z = of("runways 1;shift 0;wake light light 0;arrival a light 0 5 999 1;"
+                + "arrival b light 0 4 999 1;"
                 + "arrival c heavy 0 6 999 1");
         due("binding(2) of two", z.binding(2), 0);
         due("binding(0) with no separation", z.binding(0), 1);
@@ -758,8 +783,18 @@ public final class PromiseTest {
         y.cancel(3);
         due("latestStart(3) when cancelled", y.latestStart(3), RunwaySequencer.NONE);
 
+        // The done flight holds b until 100, which is its latest time, and so is its earliest time plus 30.
+        RunwaySequencer w = of("runways 1;freeze 0;wake light light 100;arrival a light 0 0 0 1;"
+                + "arrival b light 70 99 100 1");
+        w.advance(1);
+        due("latestStart(1) right at its latest time", w.latestStart(1), 100);
+
         promise = 56;
-        RunwaySequencer z = of("runways 2;mixed 10;freeze 0;wake light light 50;wake light heavy 100;wake heavy light 70;"
+        RunwaySequencer descending = of("runways 1;shift 0;wake light light 100;arrival a light 200 200 999 1;"
+                + "arrival b light 100 100 999 1;arrival c light 0 0 999 1");
+        due("timeInserted(3, 0, 0) pushed thrice", descending.timeInserted(3, 0, 0), 300);
+        RunwaySequencer z = of("runways 2;mixed 10;freeze 0;wake light light 50;wake light heavy 100;"
+                + "wake heavy light 70;"
                 + "arrival a light 100 100 999 1;arrival b heavy 300 300 999 1;departure c light 400 400 999 1");
         // A light one: behind a from 150, before b until 200; behind b from 370, before c until 390, behind c from 410.
         int[][] want = {{0, 0}, {50, 50}, {51, 150}, {200, 200}, {201, 370}, {390, 390}, {391, 410}, {200000, 200000}};
@@ -796,10 +831,16 @@ public final class PromiseTest {
         due("simulate(5, 500, 60, 1)", x.simulate(5, 500, 60, 1), 0);
         // From seed 2 the first x is 59559187; 908 is too much.
         due("simulate(2, 500, 60, 1)", x.simulate(2, 500, 60, 1), 0);
+        // Gone around at 60, it is frozen for 660 from 540 on; the next x are 1406932606 and 654583775: 21468 and 9988.
+        due("simulate(0, 400, 540, 1)", x.simulate(0, 400, 540, 1), 1);
+        due("simulate(0, 500, 540, 1)", x.simulate(0, 500, 540, 1), 2);
+        due("simulate(0, 400, 660, 0)", x.simulate(0, 400, 660, 0), 1);
+        due("simulate(0, 400, 659, 0)", x.simulate(0, 400, 659, 0), 0);
         due("now() stays", x.now(), 0);
         due("stateOf(0) stays", x.stateOf(0), 0);
         due("aroundCount(0) stays", x.aroundCount(0), 0);
-        RunwaySequencer y = of("runways 1;shift 0;arrival a light 0 0 0 1;arrival b light 0 0 50 1;arrival c light 0 0 500 1");
+        RunwaySequencer y = of("runways 1;shift 0;arrival a light 0 0 0 1;"
+                + "arrival b light 0 0 50 1;arrival c light 0 0 500 1");
         due("simulate(0, 0, 7200, 2)", y.simulate(0, 0, 7200, 2), 1);
         due("simulate(0, 0, 7200, 3)", y.simulate(0, 0, 7200, 3), 60);
         due("simulate(0, 0, 7200, 0)", y.simulate(0, 0, 7200, 0), 3);
