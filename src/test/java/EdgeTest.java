@@ -4,14 +4,20 @@ public final class EdgeTest {
     }
 
     public static void main(String[] args) {
+        testAll();
+        Run.curious = true;
+        testAll();
+        if (!Edges.hold()) {
+            System.exit(1);
+        }
+    }
+
+    private static void testAll() {
         TextEdges.test();
         PlanEdges.test();
         TimeEdges.test();
         SimulationEdges.test();
         PredictionEdges.test();
         RefusalEdges.test();
-        if (!Edges.hold()) {
-            System.exit(1);
-        }
     }
 }

@@ -2,6 +2,7 @@
 final class Edges {
     private static final int PROMISES = 59;
     private static final int SECTIONS = 6;
+    private static final int SHOWN = 30;
     private static final boolean[] promised = new boolean[PROMISES + 1];
     private static final boolean[] described = new boolean[SECTIONS + 1];
     private static String sentence = "";
@@ -23,12 +24,17 @@ final class Edges {
 
     private static void begin(String where, String words) {
         sentence = where + ", \"" + words + "\"";
-        sentences++;
+        // The second round repeats all sentences.
+        sentences += Run.curious ? 0 : 1;
     }
 
     static void wrong(String what) {
         wrong++;
         System.out.println(sentence + ": " + what);
+        if (wrong == SHOWN) {
+            System.out.println("and perhaps more: the test ends here");
+            System.exit(1);
+        }
     }
 
     static void due(String what, Object got, Object want) {

@@ -191,6 +191,9 @@ final class PlanEdges {
         Run.of(pair + ";wake light heavy 61").is("equalSequences(0)", 1);
         Run.of(pair + ";shift 0").is("equalSequences(0)", 1).is("allowedSequences(0)", 1);
         Run.of(pair).then("cancel(0)", "cancel(1)").is("equalSequences(0)", 1);
+        // Not before 100: b, a makes a late by 60, while at 0 and 60 nobody would be.
+        Run.of("runways 1;cost light 0 1;arrival a light 100 100 999 1;arrival b light 100 200 999 1")
+                .is("equalSequences(0)", 1);
     }
 
     private static void times() {
@@ -423,6 +426,10 @@ final class PlanEdges {
                 .is("lateCount()", 1);
         count.is("doneCount()", 3);
         Run.of(text).then("cancel(2)").is("lateCount()", 0);
+        Run first = Run.of("runways 1;shift 0;arrival a light 0 1 59 1;arrival b light 0 0 0 1").is("lateCount()", 1);
+        first.is("isLate(0)", true).then("cancel(1)").is("lateCount()", 0);
+        Run.of("runways 1;shift 0;arrival a light 0 1 59 1;arrival b light 0 0 0 1;arrival c light 0 2 119 1")
+                .is("lateCount()", 2).append("runways 1;arrival z light 0 0 0 1").then("load()").is("lateCount()", 0);
         Run.begin().is("lateCount()", 0);
     }
 

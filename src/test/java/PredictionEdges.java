@@ -82,6 +82,12 @@ final class PredictionEdges {
         Run.of("runways 2;arrival a light 5 5 99 1;arrival b light 5 5 99 3").then("assign(1, 0)")
                 .predicts("bestRunway(1)", 1)
                 .predicts("bestRunway(0)", 0);
+        // The total cost is smallest on runway 1, where it is 40 seconds late, not 100 or 70.
+        Run three = Run.of("runways 3;shift 0;wake light light 100;wake medium light 40;wake heavy light 70;"
+                + "arrival a light 0 0 999 1;arrival b medium 0 0 999 2;arrival c heavy 0 0 999 4;"
+                + "arrival x light 0 0 999 7");
+        three.then("assign(3, 0)").predicts("bestRunway(3)", 1).then("assign(3, 1)").predicts("bestRunway(3)", 1)
+                .then("assign(3, 2)").predicts("bestRunway(3)", 1);
         Edges.promise(52, "WRONG_STATE if the flight is not planned");
         Run.middle().refuses("bestRunway(0)", Run.WRONG_STATE).refuses("bestRunway(1)", Run.WRONG_STATE)
                 .refuses("bestRunway(2)", Run.WRONG_STATE).refuses("bestRunway(4)", Run.WRONG_STATE);
@@ -168,6 +174,14 @@ final class PredictionEdges {
         String held = "runways 1;shift 0;arrival x light 0 0 0 1;arrival a light 0 5 ";
         Run.of(held + "89 1").predicts("latestStart(1)", 60);
         Run.of(held + "90 1").predicts("latestStart(1)", 90);
+        Run.of(held + "59 1").predicts("latestStart(1)", Run.NONE).then("cancel(0)").predicts("latestStart(1)", 30);
+
+        Edges.promise(55, "the greatest of these times: the plan with each of them is looked at");
+        // If a begins at 90, either b behind it is late or a behind b; a costs less, so it is a.
+        String chosen = "runways 1;cost light 0 1;cost heavy 0 100;arrival a light 0 0 160 1;arrival b heavy ";
+        Run.of(chosen + "110 110 120 1").predicts("latestStart(0)", 60).predicts("latestStart(1)", 110)
+                .predicts("latestStart(0)", 60);
+        Run.of(chosen + "110 110 119 1").predicts("latestStart(0)", 30);
     }
 
     private static void latestStartSteps() {
@@ -256,6 +270,16 @@ final class PredictionEdges {
                 .append("runways 3;mixed 1;freeze 0;around 99;cost light 1 1;arrival z super 5 6 7 4");
         other.then("load()", "advance(50)", "restoreSnapshot(1)").isLike(Run.middle()
                 .then("saveSnapshot(0)", "saveSnapshot(1)"));
+        Run done = Run.of("runways 3;arrival a light 8 8 8 1;arrival b light 7 7 7 2;arrival c light 6 6 6 4")
+                .then("advance(9)", "saveSnapshot(0)")
+                .append("runways 3;arrival a light 6 6 6 4;arrival b light 7 7 7 2;arrival c light 8 8 8 1")
+                .then("load()", "advance(9)").is("doneAt(0)", 0).is("restoreSnapshot(0)", 9).is("doneCount()", 3);
+        done.is("doneAt(0)", 2).is("doneAt(1)", 1).is("doneAt(2)", 0).is("timeOf(2)", 6).is("runwayOf(2)", 2);
+        // From 150 on the smaller number is ahead, also if a text with much later flights was read in between.
+        Run.of("runways 1;freeze 0;cost light 1 2;arrival b light 0 250 999 1;arrival a light 240 240 999 1")
+                .then("saveSnapshot(1)").append("runways 1;arrival z light 9000 9000 9000 1").then("load()")
+                .is("timeOf(0)", 9000).then("restoreSnapshot(1)").is("timeOf(0)", 300).then("advance(150)")
+                .is("stateOf(0)", 1).is("timeOf(0)", 150);
         Edges.promise(59, "by a copy of a snapshot, which stays");
         Run.middle().is("restoreSnapshot(1)", 4).then("cancel(3)", "setWake(0, 0, 1)", "advance(99)", "goAround(1)")
                 .is("restoreSnapshot(1)", 4).is("stateOf(3)", 0).is("wake(0, 0)", 60).is("stateOf(1)", 1)

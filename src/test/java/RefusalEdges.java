@@ -20,6 +20,7 @@ final class RefusalEdges {
         pairs();
         numbers();
         afterLoads();
+        full();
     }
 
     private interface State {
@@ -132,5 +133,32 @@ final class RefusalEdges {
         Edges.section(6, "except that load() empties the buffer and sets the result of loadError()");
         Run.middle().refusesText("", 1, 0);
         Run.middle().then("find()").refusesText("runways 4", 2, 8);
+    }
+
+    private static Run crowd(int runways, int usable) {
+        StringBuilder text = new StringBuilder("runways " + runways);
+        for (int i = 0; i < 24; i++) {
+            text.append(i % 5 == 4 ? ";departure " : ";arrival ").append((char) ('a' + i)).append(" light 0 0 9 ")
+                    .append(usable);
+        }
+        return Run.begin().unbounded().append(text.toString()).is("load()", 24);
+    }
+
+    private static void full() {
+        Edges.section(6, "nothing throws by itself: 24 flights, planned, frozen and done, on one to three runways");
+        for (int runways = 1; runways <= 3; runways++) {
+            Run run = crowd(runways, (1 << runways) - 1).answersAll();
+            run.then("saveSnapshot(0)", "advance(1)").answersAll()
+                    .is("advance(1500)", runways == 1 ? 23 : 24 - runways);
+            run.answersAll().is("doneCount()", 24).is("doneAt(24)", Run.NONE).is("simulate(1, 500, 7200, 0)", 24);
+            run.then("restoreSnapshot(0)", "balance()").answersAll();
+            Run around = crowd(runways, (1 << runways) - 1);
+            for (int i = 0; i < 12; i++) {
+                around.then("advance(100)", "goAround(" + i + ")", "goAround(" + 2 * i + ")");
+            }
+            around.answersAll();
+        }
+        crowd(3, 4).answersAll().is("plannedAt(2, 23)", 23).is("plannedAt(2, 24)", Run.NONE).is("balance()", 0);
+        Run.begin().answersAll();
     }
 }

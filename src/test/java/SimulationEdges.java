@@ -174,6 +174,12 @@ final class SimulationEdges {
                 .predicts(call(0, 0, 7200, 3), 33);
         Run.of("runways 1;shift 0;arrival a light 0 0 0 1;arrival b light 1 1 99 1").predicts(call(0, 0, 7200, 3), 29);
         Run.begin().predicts(call(0, 0, 60, 3), 0);
+
+        Edges.section(5, "the end is behind the last number that is drawn");
+        // a goes around to 660 behind the only minute; b, which waited for it until 160, is in time at 110 then.
+        Run gone = Run.of("runways 1;shift 0;freeze 50;arrival a light 100 100 100 1;arrival b light 110 110 150 1");
+        gone.predicts(call(0, 0, 60, 2), 1).predicts(call(0, 1, 60, 2), 0).predicts(call(0, 0, 60, 3), 25)
+                .predicts(call(0, 1, 60, 3), 0);
     }
 
     /** An arrival that goes around again and again until second 200000, the last time but one after some seconds. */

@@ -96,8 +96,20 @@ final class TextEdges {
                 .is("doneCount()", 0).is("doneAt(0)", Run.NONE).is("shift()", 2).is("wake(0, 1)", 60)
                 .is("isSmooth()", true)
                 .is("stateOf(0)", 0).is("flightCount()", 1).is("runwayCount()", 1).is("timeOf(1)", Run.INDEX);
-        Run.middle().then("goAround(1)", "find()").append("runways 1").then("load()").isLike(Run.middle().then("find()")
-                .append("runways 1").then("load()"));
+        String next = "runways 3;arrival z light 9 9 9 7;departure y heavy 50 60 70 2";
+        Run.of("runways 2;freeze 99;around 99;mixed 9;cost light 1 1;wake light light 9;shift 4;"
+                + "arrival a light 0 0 50 3;"
+                + "arrival b heavy 5 9 900 3;arrival c light 9 9 900 3;arrival d light 900 900 900 3")
+                .then("advance(5)", "goAround(1)", "cancel(3)", "simulate(0, 500, 7200, 0)", "aroundCost(2)",
+                        "latestStart(1)", "costWithShift(0)", "costIfAssigned(1, 0)", "advance(20)", "neededShift()")
+                .append(next).then("load()").isLike(Run.of(next));
+        // Predictions and simulations before the text leave nothing behind either.
+        Run.of("runways 1;shift 0;freeze 99;arrival a light 90 90 90 1;arrival b light 90 91 999 1;"
+                + "arrival c light 90 92 999 1")
+                .then("advance(1)", "aroundCost(0)", "simulate(0, 500, 60, 1)", "costWithShift(0)").append(next)
+                .then("load()").is("runwayOf(0)", 0).is("runwayOf(1)", 1).isLike(Run.of(next));
+        Run.of("runways 1;freeze 99;arrival a light 90 90 90 1").then("advance(1)", "aroundCost(0)").append(next)
+                .then("load()").is("aroundCount(0)", 0).isLike(Run.of(next));
 
         Edges.promise(3, "The buffer is emptied, also on an error");
         Run.of("runways 1").is("appendByte(97)", 1);
@@ -310,6 +322,15 @@ final class TextEdges {
         error("runways 1;shif 1", 1, 10);
         error("runways 1;wakelight light 5", 1, 10);
         error("runways 1;wake lightlight 5", 1, 15);
+        for (String word : new String[] {"runways 1", "shift 1", "mixed 1", "freeze 1", "around 60",
+                "wake light light 1",
+            "cost light 1 1", "arrival q light 0 0 0 1", "departure q light 0 0 0 1"}) {
+            String start = word.startsWith("runways") ? "" : "runways 1;";
+            right(start + word, word.contains("q") ? 1 : 0);
+            for (int i = 0; i < word.indexOf(' '); i++) {
+                error(start + word.substring(0, i) + 'q' + word.substring(i + 1), 1, start.length());
+            }
+        }
         error("runways 12", 2, 8);
         right("runways 0000000000000000000000000000000000000003", 0);
         error("runways 1;around 0000000000000000000000000000000059", 2, 17);
@@ -413,6 +434,11 @@ final class TextEdges {
         for (String text : tooShort) {
             error(text, 1, text.length());
         }
+        Run.begin().unbounded().refusesText(" ".repeat(876) + "runways1;arrival  zyxwvu", 1, 900)
+                .refusesText(" ".repeat(883) + "runways1;arrival ", 1, 900)
+                .refusesText(" ".repeat(893) + "runways", 1, 900)
+                .refusesText(" ".repeat(891) + "runways 4", 2, 899).append(" ".repeat(892) + "runways3")
+                .is("load()", 0);
         // A word that is cut off cannot stand at its place: it is no text that ends too early.
         error("runway", 1, 0);
         error("runways 1;arriva", 1, 10);
@@ -457,6 +483,9 @@ final class TextEdges {
             many.is("nameByte(" + f + ", 0)", 'a' + f).is("isArrival(" + f + ")", f % 2 == 0);
         }
         many.is("classOf(24)", Run.INDEX);
+        String full = flights(23) + ";departure zyxwvu light 0 0 0 1";
+        Run.begin().unbounded().append(full).is("load()", 24).is("nameByte(23, 5)", 117).is("nameByte(22, 0)", 119)
+                .append("zyxwvu").is("find()", 23);
         Run.begin().unbounded().append(flights(24) + ";shift 1 ").is("load()", 24).is("shift()", 1);
 
         Edges.section(1, "Error 4: a 25th flight (position of the word arrival or departure)");

@@ -87,6 +87,13 @@ final class TimeEdges {
         Run.of("runways 1;freeze 119" + three).then("advance(1)").is("stateOf(1)", 1).is("stateOf(2)", 1);
         Run.of("runways 1;freeze 118" + three).then("advance(1)").is("stateOf(1)", 1).is("stateOf(2)", 0)
                 .then("advance(1)").is("stateOf(2)", 1);
+        StringBuilder all = new StringBuilder("runways 1;freeze 1800;wake light light 0");
+        for (int i = 0; i < 24; i++) {
+            all.append(";arrival ").append((char) ('a' + i)).append(" light 1801 1801 1801 1");
+        }
+        Run crowd = Run.begin().unbounded().append(all.toString()).is("load()", 24).is("advance(1)", 0);
+        crowd.is("stateOf(0)", 1).is("stateOf(22)", 1).is("stateOf(23)", 1).is("advance(1800)", 24)
+                .is("doneAt(23)", 23);
         Edges.section(4, "For each runway");
         Run.of("runways 3;freeze 9;arrival a light 10 10 10 1;arrival b light 10 10 10 2;arrival c light 10 10 10 4")
                 .then("advance(1)").is("stateOf(0)", 1).is("stateOf(1)", 1).is("stateOf(2)", 1);
@@ -226,5 +233,10 @@ final class TimeEdges {
                 .then("goAround(1)").is("isSmooth()", false);
         around.then("advance(2000)").is("stateOf(1)", 2).is("isSmooth()", false);
         around.then("restoreSnapshot(0)").is("isSmooth()", true);
+        String two = "runways 1;shift 0;freeze 99;arrival a light 5 5 5 1;arrival b light 5 5 99 1";
+        Run.of(two).then("advance(1)", "goAround(0)").is("isSmooth()", false);
+        Run.of(two).then("advance(1)", "goAround(1)").is("isSmooth()", false)
+                .append("runways 1;arrival c light 5 5 5 1")
+                .then("load()").is("isSmooth()", true).is("aroundCount(0)", 0);
     }
 }
