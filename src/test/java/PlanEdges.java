@@ -19,6 +19,7 @@ final class PlanEdges {
         flightCosts();
         floatCosts();
         choice();
+        scrambled();
         setting();
         assigning();
         cancelling();
@@ -187,7 +188,7 @@ final class PlanEdges {
                 .refuses("equalSequences(-1)", Run.INDEX);
         // Two alike may change places; when one of them costs a second more, one sequence is left.
         String pair = "runways 1;cost light 0 2;cost heavy 0 2;arrival a light 0 0 99 1;arrival b heavy 0 0 99 1";
-        Run.of(pair).is("equalSequences(0)", 2);
+        Run.of(pair).predicts("equalSequences(0)", 2).is("equalSequences(0)", 2).is("equalSequences(0)", 2);
         Run.of(pair + ";wake light heavy 61").is("equalSequences(0)", 1);
         Run.of(pair + ";shift 0").is("equalSequences(0)", 1).is("allowedSequences(0)", 1);
         Run.of(pair).then("cancel(0)", "cancel(1)").is("equalSequences(0)", 1);
@@ -297,6 +298,49 @@ final class PlanEdges {
                 run.is("plannedAt(0, " + place + ")", want[shift].charAt(place));
             }
         }
+    }
+
+    /** Nothing costs anything, so the numbers alone decide; the digits tell the first-come order. */
+    private static void scrambled() {
+        Edges.section(3, "the lexicographically smallest by the numbers, whatever the first-come order is");
+        Run run = Run.begin().unbounded();
+        for (String line : new String[] {"30412", "6543210", "1032", "2061534", "5601234", "4", "15", "3624501"}) {
+            StringBuilder text = new StringBuilder("runways 1;cost light 0 0");
+            for (char f = '0'; f <= '6'; f++) {
+                text.append(";arrival ").append((char) (f - '0' + 'a')).append(" light 0 ");
+                text.append(line.indexOf(f) + 9).append(" 9999 1");
+            }
+            run.append(text.toString()).then("load()");
+            for (char f = '0'; f <= '6'; f++) {
+                if (line.indexOf(f) < 0) {
+                    run.then("cancel(" + f + ")");
+                }
+            }
+            for (int shift = 0; shift <= 4; shift++) {
+                String want = smallest(line, "", shift);
+                run.then("setShift(" + shift + ")");
+                for (int place = 0; place < line.length(); place++) {
+                    run.is("plannedAt(0, " + place + ")", want.charAt(place));
+                }
+            }
+        }
+    }
+
+    /** The first sequence that begins so, or null if no allowed one does. */
+    private static String smallest(String line, String start, int shift) {
+        if (start.length() == line.length()) {
+            return start;
+        }
+        for (char f = '0'; f <= '9'; f++) {
+            int from = line.indexOf(f);
+            if (from >= 0 && start.indexOf(f) < 0 && Math.abs(from - start.length()) <= shift) {
+                String found = smallest(line, start + f, shift);
+                if (found != null) {
+                    return found;
+                }
+            }
+        }
+        return null;
     }
 
     private static void setting() {
