@@ -23,6 +23,8 @@ public final class RunwaySequencer {
     private static final int START_STEPS = 30;
     private static final int SNAPSHOTS = 2;
     private static final long LATE_PENALTY = 1000000000L;
+    /** Greater than every time, those of simulations too. */
+    private static final int NEVER = 2147483647;
 
     private static final int PLANNED = 0;
     private static final int FROZEN = 1;
@@ -1268,7 +1270,7 @@ public final class RunwaySequencer {
             return n;
         }
 
-        /** Answers the smallest of the bases. */
+        /** Answers the smallest of the bases, NEVER if there are none. */
         int setBases(State s, int r, int n) {
             int m = 0;
             for (int f = 0; f < s.flights.count; f++) {
@@ -1277,7 +1279,7 @@ public final class RunwaySequencer {
                     m++;
                 }
             }
-            int least = Integer.MAX_VALUE;
+            int least = NEVER;
             for (int k = 0; k < n; k++) {
                 int f = line[k];
                 int at = s.flights.soonest[f] > s.present ? s.flights.soonest[f] : s.present;

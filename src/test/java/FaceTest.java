@@ -11,30 +11,44 @@ import java.util.HashSet;
 import java.util.List;
 import java.util.Set;
 import java.util.TreeSet;
+import java.util.regex.Matcher;
+import java.util.regex.Pattern;
 
 /** The document's face and those rules of LANGUAGE.md that a look at the class and its text can find broken. */
 public final class FaceTest {
     private static int wrong = 0;
 
-    private static final String[] FACE = {
-        "int appendByte(int)", "int load()", "int loadError()", "int find()", "int runwayCount()",
-        "int flightCount()", "int nameByte(int,int)", "boolean isArrival(int)", "int classOf(int)",
-        "int earliest(int)", "int target(int)", "int latest(int)", "int wake(int,int)",
-        "int separation(int,int)", "int longerTriples()", "int now()", "int advance(int)", "int shift()",
-        "int setShift(int)", "int setWake(int,int,int)", "int runwayOf(int)", "int assign(int,int)",
-        "int cancel(int)", "int goAround(int)", "int stateOf(int)", "int timeOf(int)", "int placeOf(int)",
-        "int firstComePlace(int)", "int plannedAt(int,int)", "int delay(int)", "boolean isLate(int)",
-        "float costOf(int)", "long totalCost()", "long planCost(int)", "long firstComeCost(int)",
-        "float meanDelay()", "int lateCount()", "int allowedSequences(int)", "int equalSequences(int)",
-        "int slack(int)", "int binding(int)", "int pastNeighbor()", "int lastTime(int)", "int doneCount()",
-        "int doneAt(int)", "int aroundCount(int)", "boolean isSmooth()", "long costWithShift(int)",
-        "int neededShift()", "long costIfAssigned(int,int)", "int bestRunway(int)", "int balance()",
-        "long aroundCost(int)", "int latestStart(int)", "int timeInserted(int,int,int)",
-        "int simulate(int,int,int,int)", "int saveSnapshot(int)", "int restoreSnapshot(int)"};
+    /** The face by what its methods may throw. */
+    private static final String[] SILENT = {
+        "int load()", "int loadError()", "int find()", "int runwayCount()", "int flightCount()",
+        "int longerTriples()", "int now()", "int shift()", "long totalCost()", "float meanDelay()",
+        "int lateCount()", "int pastNeighbor()", "int doneCount()", "int doneAt(int)", "boolean isSmooth()",
+        "int neededShift()", "int balance()"};
+    private static final String[] OF_INDEX = {
+        "int nameByte(int,int)", "boolean isArrival(int)", "int classOf(int)", "int earliest(int)",
+        "int target(int)", "int latest(int)", "int separation(int,int)", "int runwayOf(int)",
+        "int assign(int,int)", "int cancel(int)", "int goAround(int)", "int stateOf(int)", "int timeOf(int)",
+        "int placeOf(int)", "int firstComePlace(int)", "int plannedAt(int,int)", "int delay(int)",
+        "boolean isLate(int)", "float costOf(int)", "long planCost(int)", "long firstComeCost(int)",
+        "int allowedSequences(int)", "int equalSequences(int)", "int slack(int)", "int binding(int)",
+        "int lastTime(int)", "int aroundCount(int)", "long costIfAssigned(int,int)", "int bestRunway(int)",
+        "long aroundCost(int)", "int latestStart(int)"};
+    private static final String[] OF_ARGUMENT = {
+        "int appendByte(int)", "int wake(int,int)", "int advance(int)", "int setShift(int)",
+        "int setWake(int,int,int)", "long costWithShift(int)", "int simulate(int,int,int,int)",
+        "int saveSnapshot(int)", "int restoreSnapshot(int)"};
+    private static final String[] OF_BOTH = {
+        "int timeInserted(int,int,int)"};
 
     private static final String[] FORBIDDEN = {
         "->", "::", "import ", "try ", "catch", "finally", "synchronized", "assert ", "Exact(", "System.out",
         "System.nanoTime", "Math.random", "Thread", "NaN", "double", "Object"};
+
+    /** What rule 4 lists of the library's classes, as far as the program may need it. */
+    private static final Set<String> LIBRARY = Set.of(
+        "System.arraycopy", "Arrays.copyOf", "Arrays.copyOfRange", "Arrays.fill", "Integer.bitCount",
+        "Integer.compare", "Integer.max", "Integer.min", "Long.compare", "Long.max", "Long.min", "Math.abs",
+        "Math.floorDiv", "Math.floorMod", "Math.max", "Math.min");
 
     private static void check(boolean holds, String what) {
         if (!holds) {
@@ -48,7 +62,17 @@ public final class FaceTest {
         for (Class<?> type : m.getParameterTypes()) {
             types.add(type.getName());
         }
-        return m.getReturnType().getName() + " " + m.getName() + "(" + String.join(",", types) + ")";
+        StringBuilder thrown = new StringBuilder();
+        for (Class<?> type : m.getExceptionTypes()) {
+            thrown.append(" ").append(type.getSimpleName());
+        }
+        return m.getReturnType().getName() + " " + m.getName() + "(" + String.join(",", types) + ")" + thrown;
+    }
+
+    private static void addAll(Set<String> face, String[] signatures, String thrown) {
+        for (String signature : signatures) {
+            face.add(signature + thrown);
+        }
     }
 
     public static void main(String[] args) throws Exception {
@@ -76,7 +100,11 @@ public final class FaceTest {
     }
 
     private static void methods(Class<?> c) {
-        Set<String> want = new TreeSet<>(Arrays.asList(FACE));
+        Set<String> want = new TreeSet<>();
+        addAll(want, SILENT, "");
+        addAll(want, OF_INDEX, " IndexOutOfBoundsException");
+        addAll(want, OF_ARGUMENT, " IllegalArgumentException");
+        addAll(want, OF_BOTH, " IndexOutOfBoundsException IllegalArgumentException");
         Set<String> got = new TreeSet<>();
         Set<String> publicNames = new HashSet<>();
         for (Method m : c.getDeclaredMethods()) {
@@ -115,6 +143,10 @@ public final class FaceTest {
         String text = new String(Files.readAllBytes(Path.of(path)), StandardCharsets.UTF_8);
         for (String word : FORBIDDEN) {
             check(!text.contains(word), "the text has " + word);
+        }
+        Matcher used = Pattern.compile("\\b(System|Arrays|Integer|Long|Math)\\.\\w+").matcher(text);
+        while (used.find()) {
+            check(LIBRARY.contains(used.group()), used.group() + " is not in rule 4");
         }
         check(text.chars().allMatch(b -> b < 128), "the text has signs beyond 127");
         for (String line : text.split("\n")) {

@@ -155,6 +155,13 @@ final class TimeEdges {
         // With twice the cost of being late both sequences cost 100 at 150, and the smaller number goes first.
         Run.of(text + ";cost light 1 2").then("advance(149)").is("plannedAt(0, 0)", 1).is("totalCost()", 100);
         Run.of(text + ";cost light 1 2").then("advance(150)").is("stateOf(0)", 1).is("timeOf(0)", 150);
+
+        Edges.section(4, "the first second that changes a plan is the one behind an earliest time");
+        // With 1 ahead, 0 at 199 costs 99; with 0 ahead at the present time t it costs 100 - t: the same at second 1.
+        String equal = "runways 1;freeze 0;wake heavy light 0;wake light heavy 149;cost heavy 1 1;cost light 0 1;"
+                + "arrival a heavy 0 100 9999 1;arrival b light 50 50 9999 1";
+        Run.of(equal).is("plannedAt(0, 0)", 1).is("timeOf(0)", 199).is("totalCost()", 99).is("advance(1)", 0)
+                .is("stateOf(0)", 1).is("timeOf(0)", 1).is("timeOf(1)", 50).is("totalCost()", 99);
     }
 
     private static void goingAround() {
